@@ -662,9 +662,11 @@ public final class Filterbench {
 
         void shift(int from, int to) {
             Rule shifted = rules[from];
-            int step = from < to ? 1 : -1;
-            for (int i = from; i != to; i += step) {
-                rules[i] = rules[i + step];
+            for (int i = from; i < to; i++) {
+                rules[i] = rules[i + 1];
+            }
+            for (int i = from; i > to; i--) {
+                rules[i] = rules[i - 1];
             }
             rules[to] = shifted;
         }
@@ -1050,6 +1052,8 @@ public final class Filterbench {
      * is looked at, a test that looks at flags can do both; each other one does just one of the two.
      */
     private static final class Reasoner {
+        private static final int DEEPEST = 36;
+
         private final Tests tests;
         private final Sketch sketch = new Sketch();
         /** The tests that are asked for and all their parts, by rising numbers. */
@@ -1063,6 +1067,7 @@ public final class Filterbench {
         private long mayFail;
         private long sureHold;
         private long sureFail;
+        private boolean isToHoldFirst;
 
         Reasoner(Tests tests) {
             this.tests = tests;
@@ -1091,25 +1096,43 @@ public final class Filterbench {
             }
         }
 
-        /** Each level settles one test of two parts, so there are never more levels than tests. */
+        // Each level settles one more test without parts. Of 60 tests, twelve roots have 36 of these below them at most,
+        // for n of them need n - 12 tests with parts to be reached.
         private boolean hasMail(long toHold, long toFail, int depth) {
-            if (depth > Tests.LIMIT || !follow(toHold, toFail)) {
+            if (depth > DEEPEST || !follow(toHold, toFail)) {
                 return false;
             }
-            long nowHold = hold;
-            long nowFail = fail;
-            int open = firstOpen();
+            int open = lastOpen();
             if (open < 0) {
                 return true;
             }
-            long first = 1L << tests.firsts[open];
-            long second = 1L << tests.seconds[open];
-            if (tests.kinds[open] == '|') {
-                return hasMail(nowHold | first, nowFail, depth + 1)
-                        || hasMail(nowHold | second, nowFail | first, depth + 1);
+            long nowHold = hold;
+            long nowFail = fail;
+            long settled = 1L << unsettledUnder(open);
+            if (isToHoldFirst) {
+                return hasMail(nowHold | settled, nowFail, depth + 1)
+                        || hasMail(nowHold, nowFail | settled, depth + 1);
             }
-            return hasMail(nowHold, nowFail | first, depth + 1)
-                    || hasMail(nowHold | first, nowFail | second, depth + 1);
+            return hasMail(nowHold, nowFail | settled, depth + 1)
+                    || hasMail(nowHold | settled, nowFail, depth + 1);
+        }
+
+        /** Goes down from an open test, by parts that would help it and may still do so, to one without parts. */
+        private int unsettledUnder(int open) {
+            int test = open;
+            boolean isToHold = tests.kinds[open] == '|';
+            for (int i = 0; i < Tests.LIMIT && Tests.partsOf(tests.kinds[test]) > 0; i++) {
+                int first = tests.firsts[test];
+                long helpful = isToHold ? mayHold & ~sureHold : mayFail & ~sureFail;
+                if (tests.kinds[test] == '!') {
+                    isToHold = !isToHold;
+                    test = first;
+                } else {
+                    test = hasBit(helpful, first) ? first : tests.seconds[test];
+                }
+            }
+            isToHoldFirst = isToHold;
+            return test;
         }
 
         /** Takes up what follows from what must be; answers whether no contradiction showed. */
@@ -1258,20 +1281,21 @@ public final class Filterbench {
             }
         }
 
-        /** The first test that must be, but by one of its parts alone, and none of them is chosen yet; or -1. */
-        private int firstOpen() {
-            for (int i = 0; i < askedCount; i++) {
+        /** The last test that must be by one of its parts alone, while none of them is chosen or sure; or -1. */
+        private int lastOpen() {
+            for (int i = askedCount - 1; i >= 0; i--) {
                 int test = asked[i];
                 char kind = tests.kinds[test];
-                boolean isOpen = kind == '|' && hasBit(hold & ~sureHold, test)
-                        && !hasEither(hold, tests.firsts[test], tests.seconds[test])
-                        || kind == '&' && hasBit(fail & ~sureFail, test)
-                        && !hasEither(fail, tests.firsts[test], tests.seconds[test]);
-                if (isOpen) {
+                if (kind == '|' && isOpen(hold, sureHold, test) || kind == '&' && isOpen(fail, sureFail, test)) {
                     return test;
                 }
             }
             return -1;
+        }
+
+        private boolean isOpen(long must, long sure, int test) {
+            return hasBit(must & ~sure, test)
+                    && !hasEither(must, tests.firsts[test], tests.seconds[test]);
         }
     }
 

@@ -4,6 +4,7 @@ import java.util.concurrent.Callable;
 /** Long runs of calls by chance (always the same ones), each compared with the plain model. */
 public final class RandomRunsTest {
     private static final long MOST_MAILS = 3000;
+    private static final int CALLS = 512;
 
     private final Check check;
     private final Random random;
@@ -11,6 +12,7 @@ public final class RandomRunsTest {
     private final Filterbench bench = new Filterbench();
     private final PlainModel model = new PlainModel();
     private final int run;
+    private int made = 0;
 
     private RandomRunsTest(Check check, int run) {
         this.check = check;
@@ -21,18 +23,22 @@ public final class RandomRunsTest {
 
     public static void main(String[] args) {
         Check check = new Check();
-        for (int run = 0; run < 400; run++) {
+        for (int run = 0; run < 1000; run++) {
             RandomRunsTest test = new RandomRunsTest(check, run);
-            for (int call = 0; call < 512; call++) {
-                test.callSomething(call);
+            for (int i = 0; i < CALLS && test.made < CALLS; i++) {
+                test.callSomething();
             }
         }
         check.end();
     }
 
     private void compare(String call, Callable<?> want, Callable<?> got) {
+        if (made == CALLS) {
+            return;
+        }
         Object due = Check.answerOf(want);
         if (due != null) {
+            made++;
             check.due("run " + run + ": " + call, due, got);
         }
     }
@@ -56,9 +62,9 @@ public final class RandomRunsTest {
         return script >= 0 && script < 4 ? below(model.scripts.get(script).size()) : 0;
     }
 
-    private void callSomething(int call) {
+    private void callSomething() {
         // The beginning builds, the rest uses what was built.
-        int what = call < 150 ? random.nextInt(12) : random.nextInt(60);
+        int what = made < 150 ? random.nextInt(12) : random.nextInt(60);
         switch (what) {
             case 0, 1 -> addMail();
             case 2, 3, 4, 5 -> addTest();

@@ -302,7 +302,11 @@ public final class Filterbench {
 
     public boolean isTrue() {
         for (int script = 0; script < SCRIPTS; script++) {
-            int reached = rulesReached(script);
+            int reached = 0;
+            for (int mail = 0; mail < office.mailCount; mail++) {
+                handling.perform(script, mail, spare);
+                reached |= spare.rulesReached;
+            }
             for (int rule = 0; rule < scripts[script].count; rule++) {
                 if (hasBit(reached, rule) && isNeverDone(script, rule)) {
                     return false;
@@ -313,15 +317,6 @@ public final class Filterbench {
     }
 
     // ---- what several calls need
-
-    private int rulesReached(int script) {
-        int reached = 0;
-        for (int mail = 0; mail < office.mailCount; mail++) {
-            handling.perform(script, mail, spare);
-            reached |= spare.rulesReached;
-        }
-        return reached;
-    }
 
     private boolean isNeverDone(int script, int rule) {
         Rule[] rules = scripts[script].rules;
@@ -910,6 +905,9 @@ public final class Filterbench {
         private int notReceiving;
         private int leastReceivers;
         private int mostReceivers;
+        /** The receivers that there must be and can be, by those that are known as well. */
+        private int fewest;
+        private int most;
         private int inSubject;
         private int notInSubject;
         private int inBody;
@@ -986,18 +984,13 @@ public final class Filterbench {
             }
         }
 
+        /** Whether there is such a mail; asked ahead of what its tests may do. */
         boolean hasMail() {
+            fewest = Math.max(leastReceivers, Integer.bitCount(receiving));
+            most = Math.min(mostReceivers, PERSONS - Integer.bitCount(notReceiving));
             return senders != 0 && weekdays != 0 && leastSize <= mostSize
-                    && (receiving & notReceiving) == 0 && fewest() <= most()
+                    && (receiving & notReceiving) == 0 && fewest <= most
                     && (inSubject & notInSubject) == 0 && (inBody & notInBody) == 0;
-        }
-
-        private int fewest() {
-            return Math.max(leastReceivers, Integer.bitCount(receiving));
-        }
-
-        private int most() {
-            return Math.min(mostReceivers, PERSONS - Integer.bitCount(notReceiving));
         }
 
         /** Whether the test holds for some of these mails; there is one at least. */
@@ -1007,7 +1000,7 @@ public final class Filterbench {
                     return hasBit(senders, a);
                 case 't':
                     return hasBit(receiving, a)
-                            || !hasBit(notReceiving, a) && Integer.bitCount(receiving) < most();
+                            || !hasBit(notReceiving, a) && Integer.bitCount(receiving) < most;
                 case 's':
                     return !hasBit(notInSubject, a);
                 case 'b':
@@ -1017,7 +1010,7 @@ public final class Filterbench {
                 case 'd':
                     return hasBit(weekdays, a);
                 case 'n':
-                    return most() >= a;
+                    return most >= a;
                 default:
                     return true;
             }
@@ -1030,7 +1023,7 @@ public final class Filterbench {
                     return (senders & ~(1 << a)) != 0;
                 case 't':
                     return hasBit(notReceiving, a)
-                            || !hasBit(receiving, a) && PERSONS - Integer.bitCount(notReceiving) > fewest();
+                            || !hasBit(receiving, a) && PERSONS - Integer.bitCount(notReceiving) > fewest;
                 case 's':
                     return !hasBit(inSubject, a);
                 case 'b':
@@ -1040,7 +1033,7 @@ public final class Filterbench {
                 case 'd':
                     return (weekdays & ~(1 << a)) != 0;
                 case 'n':
-                    return fewest() < a;
+                    return fewest < a;
                 default:
                     return false;
             }
@@ -1167,41 +1160,35 @@ public final class Filterbench {
             }
         }
 
+        /** Finds what can be of each test, by the sketch and by what can be of its parts. */
         private void weigh() {
             mayHold = 0L;
             mayFail = 0L;
             sureHold = 0L;
             sureFail = 0L;
             for (int i = 0; i < askedCount; i++) {
-                weighOne(asked[i]);
-            }
-        }
-
-        private void weighOne(int test) {
-            char kind = tests.kinds[test];
-            int a = tests.firsts[test];
-            int b = tests.seconds[test];
-            switch (kind) {
-                case '!':
+                int test = asked[i];
+                char kind = tests.kinds[test];
+                int a = tests.firsts[test];
+                int b = tests.seconds[test];
+                if (kind == '!') {
                     noteMay(test, hasBit(mayFail, a), hasBit(mayHold, a));
                     noteSure(test, hasBit(sureFail, a), hasBit(sureHold, a));
-                    break;
-                case '&':
-                    noteMay(test, hasBoth(mayHold, a, b), hasEither(mayFail, a, b));
-                    noteSure(test, hasBoth(sureHold, a, b), hasEither(sureFail, a, b));
-                    break;
-                case '|':
-                    noteMay(test, hasEither(mayHold, a, b), hasBoth(mayFail, a, b));
-                    noteSure(test, hasEither(sureHold, a, b), hasBoth(sureFail, a, b));
-                    break;
-                case 'k':
+                } else if (kind == '&') {
+                    noteMay(test, hasBit(mayHold, a) && hasBit(mayHold, b), hasEither(mayFail, a, b));
+                    noteSure(test, hasBit(sureHold, a) && hasBit(sureHold, b), hasEither(sureFail, a, b));
+                } else if (kind == '|') {
+                    noteMay(test, hasEither(mayHold, a, b), hasBit(mayFail, a) && hasBit(mayFail, b));
+                    noteSure(test, hasEither(sureHold, a, b), hasBit(sureFail, a) && hasBit(sureFail, b));
+                } else if (kind == 'k') {
                     noteMay(test, true, true);
                     noteSure(test, true, true);
-                    break;
-                default:
-                    noteMay(test, sketch.mayHold(kind, a), sketch.mayFail(kind, a));
-                    noteSure(test, !sketch.mayFail(kind, a), !sketch.mayHold(kind, a));
-                    break;
+                } else {
+                    boolean holds = sketch.mayHold(kind, a);
+                    boolean fails = sketch.mayFail(kind, a);
+                    noteMay(test, holds, fails);
+                    noteSure(test, !fails, !holds);
+                }
             }
         }
 
@@ -1226,10 +1213,6 @@ public final class Filterbench {
             if (fails) {
                 sureFail |= bit;
             }
-        }
-
-        private static boolean hasBoth(long bits, int a, int b) {
-            return hasBit(bits, a) && hasBit(bits, b);
         }
 
         private static boolean hasEither(long bits, int a, int b) {

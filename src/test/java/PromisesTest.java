@@ -43,6 +43,7 @@ public final class PromisesTest {
         isShadowed();
         areSame();
         areSameOfNumbers();
+        manyWords();
         learn();
         learnOrder();
         sum();
@@ -998,6 +999,66 @@ public final class PromisesTest {
 
     private static int nobodyElseOf(Filterbench y) {
         return y.test('|', y.test('t', 8, 0), y.test('t', 9, 0));
+    }
+
+    private static int word(Filterbench x, int number) {
+        return x.test(number < 16 ? 's' : 'b', number % 16, 0);
+    }
+
+    private static int oneOfTwo(Filterbench x, int a, int b) {
+        int some = x.test('|', a, b);
+        int both = x.test('&', a, b);
+        return x.test('&', some, x.test('!', both, 0));
+    }
+
+    /** Tests by more words than could be tried one by one. */
+    private static void manyWords() {
+        Filterbench odd = new Filterbench();
+        int[] words = new int[7];
+        for (int i = 0; i < 7; i++) {
+            words[i] = word(odd, i);
+        }
+        int up = words[0];
+        int down = words[6];
+        for (int i = 1; i < 7; i++) {
+            up = oneOfTwo(odd, up, words[i]);
+            down = oneOfTwo(odd, down, words[6 - i]);
+        }
+        int oddUp = up;
+        int oddDown = down;
+        C.due("areSame: an odd number of words, in both orders", true, () -> odd.areSame(oddUp, oddDown));
+        C.due("areSame: of less words", false, () -> odd.areSame(oddUp, oddUp - 4));
+
+        Filterbench pairs = new Filterbench();
+        int some = -1;
+        int other = -1;
+        for (int i = 0; i < 10; i++) {
+            words = new int[] {word(pairs, 2 * i), word(pairs, 2 * i + 1)};
+            int pair = pairs.test('&', words[0], words[1]);
+            some = i == 0 ? pair : pairs.test('|', some, pair);
+            int turned = pairs.test('&', words[1], words[0]);
+            other = i == 0 ? turned : pairs.test('|', turned, other);
+        }
+        int onePair = some;
+        int oneTurned = other;
+        C.due("areSame: one of ten pairs of words", true, () -> pairs.areSame(onePair, oneTurned));
+
+        // Twelve rules by 36 words and receivers; each by three of them.
+        Filterbench rules = new Filterbench();
+        for (int r = 0; r < 12; r++) {
+            int test = -1;
+            for (int i = 0; i < 3; i++) {
+                int number = 3 * r + i;
+                int one = number < 32 ? word(rules, number) : rules.test('t', number - 32, 0);
+                test = test < 0 ? one : rules.test(r == 11 ? '|' : '&', test, one);
+            }
+            rules.rule(0, test);
+            rules.action(0, r, 's', 0);
+        }
+        C.due("isShadowed: not by 33 other words", false, () -> rules.isShadowed(0, 11));
+        C.due("isShadowed: nor by 30", false, () -> rules.isShadowed(0, 10));
+        rules.reorder(0, 11, 0);
+        C.due("isShadowed: nor when it is first", false, () -> rules.isShadowed(0, 11));
     }
 
     private static void learn() {

@@ -718,7 +718,7 @@ public final class Filterbench {
         private Mail mail;
         private long truth;
         private boolean isTruthOld;
-        private boolean isAnswered;
+        private boolean hasSentOut;
         private boolean isOver;
 
         Handling(Tests tests, Script[] scripts, Office office) {
@@ -734,7 +734,7 @@ public final class Filterbench {
             report = filled;
             mail = office.mails[number];
             isTruthOld = true;
-            isAnswered = false;
+            hasSentOut = false;
             isOver = false;
             office.loadWithout(number, load);
             runScript(script, 0);
@@ -799,7 +799,7 @@ public final class Filterbench {
                 case 'x':
                     return report.isPlaced();
                 case 'r':
-                    return report.isPlaced() || isAnswered;
+                    return report.isPlaced() || hasSentOut;
                 case 'c':
                 case 'w':
                 case 'v':
@@ -847,7 +847,7 @@ public final class Filterbench {
                 case 'c':
                 case 'w':
                 case 'v':
-                    isAnswered = true;
+                    hasSentOut = true;
                     sendOut(kind, a);
                     break;
                 case 'F':
@@ -1089,8 +1089,8 @@ public final class Filterbench {
             }
         }
 
-        // Each level settles one more test without parts. Of 60 tests, twelve roots have 36 of these below them at most,
-        // for n of them need n - 12 tests with parts to be reached.
+        // Each level settles one more test without parts. Below the tests of twelve rules there are 36 of
+        // these at most, as n of them need n - 12 of the 60 tests to join them.
         private boolean hasMail(long toHold, long toFail, int depth) {
             if (depth > DEEPEST || !follow(toHold, toFail)) {
                 return false;

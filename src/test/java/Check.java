@@ -18,6 +18,15 @@ final class Check {
         due(what, "throws." + want.getSimpleName(), call);
     }
 
+    /** What the last delivery or try did, by its codes. */
+    void dueDone(String what, Filterbench x, int... codes) {
+        due(what + ": done", codes.length, x::done);
+        for (int i = 0; i < codes.length; i++) {
+            int index = i;
+            due(what + ": doneAt(" + i + ")", codes[i], () -> x.doneAt(index));
+        }
+    }
+
     /** The answer of a call, or the name of its exception; not that of a class below it. */
     static Object answerOf(Callable<?> call) {
         try {

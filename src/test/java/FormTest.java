@@ -5,9 +5,12 @@ import java.lang.reflect.Method;
 import java.lang.reflect.Modifier;
 import java.nio.file.Files;
 import java.nio.file.Path;
+import java.util.ArrayList;
 import java.util.Arrays;
 import java.util.List;
 import java.util.TreeSet;
+import java.util.regex.Matcher;
+import java.util.regex.Pattern;
 import java.util.stream.Collectors;
 
 /** Looks at the face of the class and, as far as a plain look can tell, at the rules of LANGUAGE.md. */
@@ -63,8 +66,31 @@ public final class FormTest {
         Constructor<?>[] constructors = face.getDeclaredConstructors();
         C.due("constructors", "[public Filterbench()]", () -> Arrays.toString(constructors));
         lookAtClasses(face);
-        lookAtText(Files.readString(Path.of("src/main/java/Filterbench.java")));
+        String text = Files.readString(Path.of("src/main/java/Filterbench.java"));
+        lookAtText(text);
+        lookAtOrder(text);
         C.end();
+    }
+
+    /** The calls in the document's order, with the lines that the interface says ahead of them. */
+    private static final List<String> ORDER = List.of("---- mails", "mail", "pass", "setQuota", "inBox", "boxOf",
+        "hasFlag", "move", "---- tests and rules", "test", "holds", "rule", "action", "clear", "reorder",
+        "---- deliveries and tries", "deliver", "attempt", "done", "doneAt", "clashes", "faults", "flags", "replies",
+        "forwarded", "difference", "---- rules and learning", "isShadowed", "areSame", "learn", "sum", "goneShare",
+        "meanSize", "isTrue");
+
+    private static void lookAtOrder(String text) {
+        List<String> found = new ArrayList<>();
+        Pattern call = Pattern.compile("    public (?:int|long|boolean|float|double) (\\w+)\\(.*");
+        for (String line : text.lines().toList()) {
+            Matcher matcher = call.matcher(line);
+            if (matcher.matches()) {
+                found.add(matcher.group(1));
+            } else if (line.startsWith("    // ---- ") && found.size() < ORDER.size()) {
+                found.add(line.substring(7));
+            }
+        }
+        C.due("the calls in their order", ORDER, () -> found);
     }
 
     private static boolean isPrivate(Member m) {
@@ -84,7 +110,7 @@ public final class FormTest {
                 open.add(m.getName());
             }
         }
-        List<Class<?>> all = new java.util.ArrayList<>(List.of(face.getDeclaredClasses()));
+        List<Class<?>> all = new ArrayList<>(List.of(face.getDeclaredClasses()));
         C.due("at most twelve classes", true, () -> all.size() + 1 <= 12);
         for (Class<?> inside : all) {
             C.due("static: " + inside.getName(), true, () -> Modifier.isStatic(inside.getModifiers()));

@@ -53,37 +53,6 @@ public final class PromisesTest {
         C.end();
     }
 
-    // ---- helpers
-
-    /** A sorter with the test 0, always, and one rule of script 0 with these actions. */
-    private static Filterbench with(Object... kindsAndNumbers) {
-        Filterbench x = new Filterbench();
-        x.test('a', 0, 0);
-        always(x, 0, kindsAndNumbers);
-        return x;
-    }
-
-    /** Adds a rule that is always done; its test is the test 0. */
-    private static void always(Filterbench x, int script, Object... kindsAndNumbers) {
-        int rule = x.rule(script, 0);
-        for (int i = 0; i < kindsAndNumbers.length; i += 2) {
-            x.action(script, rule, (Character) kindsAndNumbers[i], (Integer) kindsAndNumbers[i + 1]);
-        }
-    }
-
-    /** A mail of the size 100 from person 1 to person 0. */
-    private static int plain(Filterbench x) {
-        return x.mail(1, 1, 0, 0, 100);
-    }
-
-    private static void dueDone(String what, Filterbench x, int... codes) {
-        C.due(what + ": done", codes.length, x::done);
-        for (int i = 0; i < codes.length; i++) {
-            int index = i;
-            C.due(what + ": doneAt(" + i + ")", codes[i], () -> x.doneAt(index));
-        }
-    }
-
     // ---- promises
 
     private static void newObject() {
@@ -117,9 +86,9 @@ public final class PromisesTest {
         }
         for (int i = 2; i < 40; i++) {
             int number = i;
-            C.due("mail: " + i, number, () -> plain(x));
+            C.due("mail: " + i, number, () -> Sorter.mail(x));
         }
-        C.refuses("mail: the 41st", STATE, () -> plain(x));
+        C.refuses("mail: the 41st", STATE, () -> Sorter.mail(x));
         C.refuses("mail: the 41st, out of range", ARGUMENT, () -> x.mail(0, 1, 0, 0, 0));
         C.due("mail: sum of 40", 1L + 999 + 38 * 100, x::sum);
     }
@@ -134,9 +103,9 @@ public final class PromisesTest {
         C.due("pass(4)", 105, () -> x.pass(4));
         int weekday0 = x.test('d', 0, 0);
         int weekday1 = x.test('d', 1, 0);
-        int day105 = plain(x);
+        int day105 = Sorter.mail(x);
         x.pass(1);
-        int day106 = plain(x);
+        int day106 = Sorter.mail(x);
         C.due("pass: the 105th day", true, () -> x.holds(weekday0, day105));
         C.due("pass: the 106th day", false, () -> x.holds(weekday0, day106));
         C.due("pass: the 106th day is one behind", true, () -> x.holds(weekday1, day106));
@@ -160,8 +129,8 @@ public final class PromisesTest {
     }
 
     private static void inBox() {
-        Filterbench x = with('m', 2, 'c', 2, 'c', 0, 'c', 2);
-        int m = plain(x);
+        Filterbench x = Sorter.with('m', 2, 'c', 2, 'c', 0, 'c', 2);
+        int m = Sorter.mail(x);
         C.due("inBox: not delivered", 0, () -> x.inBox(2));
         x.deliver(m);
         C.due("inBox: the mail and two copies", 300, () -> x.inBox(2));
@@ -169,7 +138,7 @@ public final class PromisesTest {
         x.deliver(m);
         C.due("inBox: copies stay", 500, () -> x.inBox(2));
         x.clear(0);
-        always(x, 0, 'x', 0);
+        Sorter.always(x, 0, 'x', 0);
         x.deliver(m);
         C.due("inBox: a gone mail", 400, () -> x.inBox(2));
         C.due("inBox(7)", 0, () -> x.inBox(7));
@@ -178,15 +147,15 @@ public final class PromisesTest {
     }
 
     private static void boxOf() {
-        Filterbench x = with('m', 7);
-        int m = plain(x);
+        Filterbench x = Sorter.with('m', 7);
+        int m = Sorter.mail(x);
         C.refuses("boxOf: not delivered", ELEMENT, () -> x.boxOf(m));
         x.attempt(0, m);
         C.refuses("boxOf: tried", ELEMENT, () -> x.boxOf(m));
         x.deliver(m);
         C.due("boxOf", 7, () -> x.boxOf(m));
         x.clear(0);
-        always(x, 0, 'r', 0);
+        Sorter.always(x, 0, 'r', 0);
         x.deliver(m);
         C.refuses("boxOf: sent back", ELEMENT, () -> x.boxOf(m));
         x.clear(0);
@@ -197,8 +166,8 @@ public final class PromisesTest {
     }
 
     private static void hasFlag() {
-        Filterbench x = with('F', 0, 'F', 7, 'F', 3, 'U', 3, 'x', 0);
-        int m = plain(x);
+        Filterbench x = Sorter.with('F', 0, 'F', 7, 'F', 3, 'U', 3, 'x', 0);
+        int m = Sorter.mail(x);
         C.due("hasFlag: not delivered", false, () -> x.hasFlag(m, 0));
         x.attempt(0, m);
         C.due("hasFlag: tried", false, () -> x.hasFlag(m, 0));
@@ -218,7 +187,7 @@ public final class PromisesTest {
     private static void move() {
         Filterbench x = new Filterbench();
         x.test('a', 0, 0);
-        int m = plain(x);
+        int m = Sorter.mail(x);
         C.refuses("move: not delivered", ELEMENT, () -> x.move(m, 1));
         C.refuses("move: not delivered, no such box", INDEX, () -> x.move(m, 8));
         x.deliver(m);
@@ -231,7 +200,7 @@ public final class PromisesTest {
         C.refuses("move(0, 8)", INDEX, () -> x.move(m, 8));
         C.refuses("move(0, -1)", INDEX, () -> x.move(m, -1));
         C.refuses("move(1, 0)", INDEX, () -> x.move(1, 0));
-        always(x, 0, 'x', 0);
+        Sorter.always(x, 0, 'x', 0);
         x.deliver(m);
         C.refuses("move: gone", ELEMENT, () -> x.move(m, 1));
     }
@@ -276,7 +245,7 @@ public final class PromisesTest {
     }
 
     private static void holds() {
-        Filterbench x = with('F', 5);
+        Filterbench x = Sorter.with('F', 5);
         x.pass(9);
         int m = x.mail(3, 6, 1 << 15, 1 | 1 << 8, 500);
         Object[][] cases = {{'a', 0, true}, {'f', 3, true}, {'f', 1, false}, {'t', 1, true}, {'t', 2, true},
@@ -313,7 +282,7 @@ public final class PromisesTest {
         for (int i = 1; i < 60; i++) {
             deep.test(i % 2 == 0 ? '&' : '|', i - 1, i - 1);
         }
-        plain(deep);
+        Sorter.mail(deep);
         C.due("holds: a test with a part 2 to the power of 59 times over", true, () -> deep.holds(59, 0));
     }
 
@@ -331,11 +300,11 @@ public final class PromisesTest {
         C.refuses("rule(-1, 0)", INDEX, () -> x.rule(-1, 0));
         C.refuses("rule(0, 1)", INDEX, () -> x.rule(0, 1));
         C.refuses("rule(0, -1)", INDEX, () -> x.rule(0, -1));
-        plain(x);
+        Sorter.mail(x);
         C.due("rule: without actions", 0, () -> x.attempt(3, 0));
-        dueDone("rule: without actions", x);
-        Filterbench again = with('m', 2, 'F', 1);
-        plain(again);
+        C.dueDone("rule: without actions", x);
+        Filterbench again = Sorter.with('m', 2, 'F', 1);
+        Sorter.mail(again);
         again.clear(0);
         again.rule(0, 0);
         C.due("rule: behind clear, without actions", 0, () -> again.attempt(0, 0));
@@ -376,10 +345,10 @@ public final class PromisesTest {
     }
 
     private static void clear() {
-        Filterbench x = with('m', 4);
-        always(x, 0, 'F', 1);
-        always(x, 2, 'k', 0);
-        int m = plain(x);
+        Filterbench x = Sorter.with('m', 4);
+        Sorter.always(x, 0, 'F', 1);
+        Sorter.always(x, 2, 'k', 0);
+        int m = Sorter.mail(x);
         C.due("clear(0)", 2, () -> x.clear(0));
         C.due("clear(0) once more", 0, () -> x.clear(0));
         C.due("clear: no rules", 0, () -> x.attempt(0, m));
@@ -393,9 +362,9 @@ public final class PromisesTest {
     private static void reorder() {
         Filterbench y = new Filterbench();
         y.test('a', 0, 0);
-        int m = plain(y);
+        int m = Sorter.mail(y);
         for (int i = 0; i < 4; i++) {
-            always(y, 1, 'm', i + 1);
+            Sorter.always(y, 1, 'm', i + 1);
         }
         C.due("reorder: first", 1, () -> y.attempt(1, m));
         C.due("reorder(1, 2, 0)", 4, () -> y.reorder(1, 2, 0));
@@ -422,19 +391,19 @@ public final class PromisesTest {
     private static void deliver() {
         Filterbench x = new Filterbench();
         x.test('a', 0, 0);
-        int m = plain(x);
+        int m = Sorter.mail(x);
         C.due("deliver: without rules", 0, () -> x.deliver(m));
         Object[][] outcomes = {{'m', 5, 5}, {'m', 0, 0}, {'k', 0, 0}, {'x', 0, 8}, {'r', 0, 9}};
         for (Object[] o : outcomes) {
             x.clear(0);
-            always(x, 0, o[0], o[1]);
+            Sorter.always(x, 0, o[0], o[1]);
             C.due("deliver: " + o[0] + o[1], o[2], () -> x.deliver(m));
-            dueDone("deliver: " + o[0] + o[1], x, 0);
+            C.dueDone("deliver: " + o[0] + o[1], x, 0);
         }
         C.refuses("deliver(1)", INDEX, () -> x.deliver(1));
         C.refuses("deliver(-1)", INDEX, () -> x.deliver(-1));
-        Filterbench moved = with('m', 1);
-        int a = plain(moved);
+        Filterbench moved = Sorter.with('m', 1);
+        int a = Sorter.mail(moved);
         moved.deliver(a);
         moved.clear(0);
         moved.deliver(a);
@@ -447,42 +416,42 @@ public final class PromisesTest {
         int[] outcomes = {1, 0, 8, 9};
         for (int i = 0; i < 4; i++) {
             for (int j = 0; j < 4; j++) {
-                Filterbench x = with(four.charAt(i), 1, four.charAt(j), 2);
-                plain(x);
+                Filterbench x = Sorter.with(four.charAt(i), 1, four.charAt(j), 2);
+                Sorter.mail(x);
                 String what = "excludes: " + four.charAt(i) + four.charAt(j);
                 int outcome = outcomes[i];
                 C.due(what, outcome, () -> x.deliver(0));
                 C.due(what + " clashes", 1, x::clashes);
-                dueDone(what, x, 0);
+                C.dueDone(what, x, 0);
             }
             for (char other : "cwv".toCharArray()) {
-                Filterbench ahead = with(four.charAt(i), 1, other, 3);
-                plain(ahead);
+                Filterbench ahead = Sorter.with(four.charAt(i), 1, other, 3);
+                Sorter.mail(ahead);
                 boolean isBack = four.charAt(i) == 'r';
                 int outcome = outcomes[i];
                 C.due("excludes: " + four.charAt(i) + other, outcome, () -> ahead.deliver(0));
                 C.due("excludes: " + four.charAt(i) + other + " clashes", isBack ? 1 : 0, ahead::clashes);
                 C.due("excludes: " + four.charAt(i) + other + " done", isBack ? 1 : 2, ahead::done);
-                Filterbench behind = with(other, 3, four.charAt(i), 1);
-                plain(behind);
+                Filterbench behind = Sorter.with(other, 3, four.charAt(i), 1);
+                Sorter.mail(behind);
                 C.due("excludes: " + other + four.charAt(i), isBack ? 0 : outcome, () -> behind.deliver(0));
                 C.due("excludes: " + other + four.charAt(i) + " clashes", isBack ? 1 : 0, behind::clashes);
             }
         }
-        Filterbench notDone = with('w', 1, 'r', 0);
-        plain(notDone);
+        Filterbench notDone = Sorter.with('w', 1, 'r', 0);
+        Sorter.mail(notDone);
         C.due("excludes: 'r' behind a 'w' with a fault", 9, () -> notDone.deliver(0));
-        Filterbench clashed = with('v', 1, 'r', 0, 'c', 1, 'm', 2);
-        plain(clashed);
+        Filterbench clashed = Sorter.with('v', 1, 'r', 0, 'c', 1, 'm', 2);
+        Sorter.mail(clashed);
         C.due("excludes: an 'r' that was not done", 2, () -> clashed.deliver(0));
-        dueDone("excludes: an 'r' that was not done", clashed, 0, 2, 3);
-        Filterbench copy = with('x', 0, 'c', 1, 'F', 2, 'r', 0);
-        plain(copy);
+        C.dueDone("excludes: an 'r' that was not done", clashed, 0, 2, 3);
+        Filterbench copy = Sorter.with('x', 0, 'c', 1, 'F', 2, 'r', 0);
+        Sorter.mail(copy);
         C.due("excludes: 'c' behind 'x'", 8, () -> copy.deliver(0));
         C.due("excludes: one clash of an 'r' behind both", 1, copy::clashes);
         C.due("excludes: the copy of a gone mail", 100, () -> copy.inBox(1));
-        Filterbench first = with('r', 0, 'c', 1, 'w', 1);
-        plain(first);
+        Filterbench first = Sorter.with('r', 0, 'c', 1, 'w', 1);
+        Sorter.mail(first);
         first.setQuota(1, 0);
         first.deliver(0);
         C.due("excludes: a clash is no fault", 2, first::clashes);
@@ -491,38 +460,38 @@ public final class PromisesTest {
     }
 
     private static void nesting() {
-        Filterbench x = with('i', 0, 'F', 1);
-        plain(x);
+        Filterbench x = Sorter.with('i', 0, 'F', 1);
+        Sorter.mail(x);
         x.deliver(0);
-        dueDone("nesting: itself", x, 0, 0, 0, 0, 1, 1, 1, 1, 1);
+        C.dueDone("nesting: itself", x, 0, 0, 0, 0, 1, 1, 1, 1, 1);
         C.due("nesting: itself, faults", 1, () -> x.faults('i'));
-        Filterbench chain = with('i', 1, 'm', 1);
-        always(chain, 1, 'i', 2, 'F', 1);
-        always(chain, 2, 'i', 3, 's', 0, 'F', 2);
-        always(chain, 2, 'F', 3);
-        always(chain, 3, 'F', 4);
-        plain(chain);
+        Filterbench chain = Sorter.with('i', 1, 'm', 1);
+        Sorter.always(chain, 1, 'i', 2, 'F', 1);
+        Sorter.always(chain, 2, 'i', 3, 's', 0, 'F', 2);
+        Sorter.always(chain, 2, 'F', 3);
+        Sorter.always(chain, 3, 'F', 4);
+        Sorter.mail(chain);
         C.due("nesting: a chain", 1, () -> chain.deliver(0));
-        dueDone("nesting: a chain", chain, 0, 1000, 2000, 3000, 2001, 1001, 1);
+        C.dueDone("nesting: a chain", chain, 0, 1000, 2000, 3000, 2001, 1001, 1);
         C.due("nesting: a chain's flags", 1 << 4 | 1 << 1, chain::flags);
-        Filterbench all = with('i', 1, 'm', 1);
-        always(all, 0, 'm', 2);
-        always(all, 1, 'S', 0, 'F', 1);
-        plain(all);
+        Filterbench all = Sorter.with('i', 1, 'm', 1);
+        Sorter.always(all, 0, 'm', 2);
+        Sorter.always(all, 1, 'S', 0, 'F', 1);
+        Sorter.mail(all);
         C.due("nesting: 'S' ends all", 0, () -> all.deliver(0));
-        dueDone("nesting: 'S' ends all", all, 0, 1000);
-        Filterbench one = with('s', 0, 'F', 1);
-        always(one, 0, 'F', 2);
-        plain(one);
+        C.dueDone("nesting: 'S' ends all", all, 0, 1000);
+        Filterbench one = Sorter.with('s', 0, 'F', 1);
+        Sorter.always(one, 0, 'F', 2);
+        Sorter.mail(one);
         one.deliver(0);
-        dueDone("nesting: 's' ends the rule and the script", one, 0);
+        C.dueDone("nesting: 's' ends the rule and the script", one, 0);
     }
 
     private static void limit() {
         // Script 0 does itself: 1 + 3 + 9 + 27 + 81 times, so that 'i' alone is done 120 times.
-        Filterbench x = with('i', 0, 'F', 1, 'i', 0, 'F', 2, 'i', 0);
-        always(x, 0, 'm', 3);
-        plain(x);
+        Filterbench x = Sorter.with('i', 0, 'F', 1, 'i', 0, 'F', 2, 'i', 0);
+        Sorter.always(x, 0, 'm', 3);
+        Sorter.mail(x);
         C.due("limit: the outcome", 3, () -> x.deliver(0));
         C.due("limit: done", 200, x::done);
         C.refuses("limit: doneAt(200)", INDEX, () -> x.doneAt(200));
@@ -530,46 +499,46 @@ public final class PromisesTest {
         flags.test('a', 0, 0);
         for (int i = 0; i < 4; i++) {
             for (int r = 0; r < 10; r++) {
-                always(flags, i, 'F', 1, 'F', 2, 'F', 3, 'F', 4);
+                Sorter.always(flags, i, 'F', 1, 'F', 2, 'F', 3, 'F', 4);
             }
         }
         for (int i = 0; i < 3; i++) {
-            always(flags, i, 'i', i + 1);
+            Sorter.always(flags, i, 'i', i + 1);
         }
-        plain(flags);
+        Sorter.mail(flags);
         flags.deliver(0);
         C.due("limit: 163 are all done", 163, flags::done);
         flags.clear(0);
-        always(flags, 0, 'i', 1, 'i', 2, 'i', 3, 'm', 1, 'F', 5);
+        Sorter.always(flags, 0, 'i', 1, 'i', 2, 'i', 3, 'm', 1, 'F', 5);
         C.due("limit: keeps, as 'm' is not reached", 0, () -> flags.deliver(0));
         C.due("limit: 200", 200, flags::done);
         C.due("limit: flags", 30, flags::flags);
         Filterbench exact = exactly200();
-        always(exact, 0, 'm', 1);
-        plain(exact);
+        Sorter.always(exact, 0, 'm', 1);
+        Sorter.mail(exact);
         C.due("limit: one more ends all", 0, () -> exact.deliver(0));
         C.due("limit: exactly 200", 200, exact::done);
         Filterbench past = exactly200();
-        always(past, 0, 'w', 1, 'c', 1, 'm', 2, 'w', 1);
-        plain(past);
+        Sorter.always(past, 0, 'w', 1, 'c', 1, 'm', 2, 'w', 1);
+        Sorter.mail(past);
         past.setQuota(1, 0);
         C.due("limit: faults do not end", 0, () -> past.deliver(0));
         C.due("limit: a fault of forwarding, and none behind the end", 1, () -> past.faults('w'));
         C.due("limit: a fault of quota", 1, () -> past.faults('q'));
         // 2 + 4 * (1 + 48) + 2 are 200 actions; an 'm' behind them is a clash, and the last flag is one too many.
-        Filterbench clash = with('k', 0, 'F', 5, 'i', 1, 'i', 1, 'i', 1);
-        always(clash, 0, 'i', 1, 'F', 5, 'U', 5, 'm', 1, 'F', 6);
+        Filterbench clash = Sorter.with('k', 0, 'F', 5, 'i', 1, 'i', 1, 'i', 1);
+        Sorter.always(clash, 0, 'i', 1, 'F', 5, 'U', 5, 'm', 1, 'F', 6);
         for (int r = 0; r < 12; r++) {
-            always(clash, 1, 'F', 1, 'F', 2, 'F', 3, 'F', 4);
+            Sorter.always(clash, 1, 'F', 1, 'F', 2, 'F', 3, 'F', 4);
         }
-        plain(clash);
+        Sorter.mail(clash);
         clash.deliver(0);
         C.due("limit: 200 done", 200, clash::done);
         C.due("limit: a clash behind the 200th", 1, clash::clashes);
         C.due("limit: the 201st is not done", 30, clash::flags);
         Filterbench over = exactly200();
-        always(over, 0, 'm', 1, 'w', 1);
-        plain(over);
+        Sorter.always(over, 0, 'm', 1, 'w', 1);
+        Sorter.mail(over);
         over.setQuota(1, 0);
         C.due("limit: an 'm' with a fault would be done", 0, () -> over.deliver(0));
         C.due("limit: so it ends all", 200, over::done);
@@ -578,24 +547,24 @@ public final class PromisesTest {
 
     /** Script 0 does 200 actions: four times 49 flags of script 1, with the 'i' that does it. */
     private static Filterbench exactly200() {
-        Filterbench x = with('i', 1, 'i', 1, 'i', 1, 'i', 1);
+        Filterbench x = Sorter.with('i', 1, 'i', 1, 'i', 1, 'i', 1);
         for (int r = 0; r < 9; r++) {
-            always(x, 1, 'F', 1, 'F', 2, 'F', 3, 'F', 4, 'F', 5);
+            Sorter.always(x, 1, 'F', 1, 'F', 2, 'F', 3, 'F', 4, 'F', 5);
         }
-        always(x, 1, 'F', 1, 'F', 2, 'F', 3, 'F', 4);
+        Sorter.always(x, 1, 'F', 1, 'F', 2, 'F', 3, 'F', 4);
         return x;
     }
 
     private static void quotas() {
-        Filterbench x = with('m', 1);
-        plain(x);
-        plain(x);
+        Filterbench x = Sorter.with('m', 1);
+        Sorter.mail(x);
+        Sorter.mail(x);
         x.setQuota(1, 100);
         C.due("quota: just enough", 1, () -> x.deliver(0));
         C.due("quota: itself is in no box", 1, () -> x.deliver(0));
         C.due("quota: no fault", 0, () -> x.faults('q'));
         C.due("quota: too much goes to 0", 0, () -> x.deliver(1));
-        dueDone("quota: the 'm' counts", x, 0);
+        C.dueDone("quota: the 'm' counts", x, 0);
         C.due("quota: a fault", 1, () -> x.faults('q'));
         x.setQuota(1, 99);
         C.due("quota: one too few", 0, () -> x.attempt(0, 0));
@@ -604,43 +573,43 @@ public final class PromisesTest {
         x.move(1, 1);
         C.due("quota: moved by hand", 200, () -> x.inBox(1));
         C.due("quota: more than there is room for", 0, () -> x.attempt(0, 0));
-        Filterbench behind = with('m', 1, 'k', 0, 'c', 1);
-        plain(behind);
+        Filterbench behind = Sorter.with('m', 1, 'k', 0, 'c', 1);
+        Sorter.mail(behind);
         behind.setQuota(1, 50);
         C.due("quota: first one counts", 0, () -> behind.deliver(0));
         C.due("quota: 'k' is a clash", 1, behind::clashes);
         C.due("quota: 'm' and 'c'", 2, () -> behind.faults('q'));
-        Filterbench gave = with('m', 1, 'c', 1, 'c', 2, 'c', 1);
-        plain(gave);
+        Filterbench gave = Sorter.with('m', 1, 'c', 1, 'c', 2, 'c', 1);
+        Sorter.mail(gave);
         gave.setQuota(1, 199);
         gave.deliver(0);
         C.due("quota: what 'm' gave counts", 2, () -> gave.faults('q'));
-        dueDone("quota: what 'm' gave counts", gave, 0, 2);
+        C.dueDone("quota: what 'm' gave counts", gave, 0, 2);
         gave.setQuota(1, 200);
         gave.deliver(0);
         C.due("quota: room for one copy", 1, () -> gave.faults('q'));
         C.due("quota: the mail and its copy", 200, () -> gave.inBox(1));
-        Filterbench copies = with('c', 1, 'c', 1, 'm', 1);
-        plain(copies);
+        Filterbench copies = Sorter.with('c', 1, 'c', 1, 'm', 1);
+        Sorter.mail(copies);
         copies.setQuota(1, 200);
         C.due("quota: copies of this delivery count", 0, () -> copies.deliver(0));
         C.due("quota: copies stay", 200, () -> copies.inBox(1));
-        Filterbench free = with('c', 0, 'c', 0, 'c', 0, 'm', 0);
+        Filterbench free = Sorter.with('c', 0, 'c', 0, 'c', 0, 'm', 0);
         for (int i = 0; i < 6; i++) {
             free.mail(1, 1, 0, 0, 999);
             free.deliver(i);
         }
         C.due("quota: none of box 0", 24 * 999, () -> free.inBox(0));
         C.due("quota: no fault in box 0", 0, () -> free.faults('q'));
-        Filterbench none = with('c', 1, 'r', 0);
-        plain(none);
+        Filterbench none = Sorter.with('c', 1, 'r', 0);
+        Sorter.mail(none);
         none.setQuota(1, 0);
         C.due("quota: a 'c' that was not done", 9, () -> none.deliver(0));
     }
 
     private static void replyDays() {
-        Filterbench x = with('v', 30);
-        plain(x);
+        Filterbench x = Sorter.with('v', 30);
+        Sorter.mail(x);
         x.deliver(0);
         C.due("reply: the first", 1, () -> x.replies(1));
         x.pass(29);
@@ -649,13 +618,13 @@ public final class PromisesTest {
         x.pass(1);
         x.deliver(0);
         C.due("reply: on the 30th day", 2, () -> x.replies(1));
-        Filterbench daily = with('v', 1, 'v', 1);
-        plain(daily);
-        plain(daily);
+        Filterbench daily = Sorter.with('v', 1, 'v', 1);
+        Sorter.mail(daily);
+        Sorter.mail(daily);
         daily.mail(2, 1, 0, 0, 5);
         daily.deliver(0);
         C.due("reply: one of a delivery", 1, () -> daily.replies(1));
-        dueDone("reply: done all the same", daily, 0, 1);
+        C.dueDone("reply: done all the same", daily, 0, 1);
         daily.deliver(1);
         C.due("reply: today included", 1, () -> daily.replies(1));
         daily.deliver(2);
@@ -665,8 +634,8 @@ public final class PromisesTest {
         C.due("reply: not by a try", 1, () -> daily.replies(1));
         daily.deliver(0);
         C.due("reply: the next day", 2, () -> daily.replies(1));
-        Filterbench two = with('v', 5, 'v', 2);
-        plain(two);
+        Filterbench two = Sorter.with('v', 5, 'v', 2);
+        Sorter.mail(two);
         two.deliver(0);
         two.pass(3);
         two.deliver(0);
@@ -674,18 +643,18 @@ public final class PromisesTest {
         two.pass(4);
         two.deliver(0);
         C.due("reply: the last one counts", 3, () -> two.replies(1));
-        Filterbench mute = with('v', 9, 'r', 0);
-        plain(mute);
+        Filterbench mute = Sorter.with('v', 9, 'r', 0);
+        Sorter.mail(mute);
         mute.deliver(0);
         C.due("reply: without a reply, 'r' is a clash all the same", 0, () -> mute.deliver(0));
         C.due("reply: the clash", 1, mute::clashes);
     }
 
     private static void forwards() {
-        Filterbench x = with('w', 1, 'w', 0, 'w', 2, 'w', 2, 'w', 9);
+        Filterbench x = Sorter.with('w', 1, 'w', 0, 'w', 2, 'w', 2, 'w', 9);
         x.mail(1, 1 | 1 << 5, 0, 0, 7);
         x.deliver(0);
-        dueDone("forward", x, 2, 4);
+        C.dueDone("forward", x, 2, 4);
         C.due("forward: faults", 3, () -> x.faults('w'));
         C.due("forward: to 2", 1, () -> x.forwarded(2));
         x.deliver(0);
@@ -708,19 +677,19 @@ public final class PromisesTest {
         x.rule(0, none);
         x.action(0, 3, 'F', 1);
         x.action(0, 3, 'm', 2);
-        plain(x);
+        Sorter.mail(x);
         C.due("flags now", 2, () -> x.deliver(0));
-        dueDone("flags now", x, 0, 10, 30, 31);
+        C.dueDone("flags now", x, 0, 10, 30, 31);
         C.due("flags now: none at first", 2, () -> x.deliver(0));
         C.due("flags now: left", 2, x::flags);
         C.due("flags now: has", true, () -> x.hasFlag(0, 1));
     }
 
     private static void attempt() {
-        Filterbench x = with('m', 3, 'c', 4, 'w', 7, 'v', 1, 'F', 6);
-        int m = plain(x);
+        Filterbench x = Sorter.with('m', 3, 'c', 4, 'w', 7, 'v', 1, 'F', 6);
+        int m = Sorter.mail(x);
         C.due("attempt", 3, () -> x.attempt(0, m));
-        dueDone("attempt", x, 0, 1, 2, 3, 4);
+        C.dueDone("attempt", x, 0, 1, 2, 3, 4);
         C.due("attempt: flags", 64, x::flags);
         C.refuses("attempt: not delivered", ELEMENT, () -> x.boxOf(m));
         C.due("attempt: no mail", 0, () -> x.inBox(3));
@@ -730,8 +699,8 @@ public final class PromisesTest {
         C.due("attempt: no flag", false, () -> x.hasFlag(m, 6));
         C.refuses("attempt: none delivered", ARITHMETIC, x::goneShare);
         C.due("attempt: another script", 0, () -> x.attempt(3, m));
-        dueDone("attempt: another script", x);
-        always(x, 3, 'x', 0);
+        C.dueDone("attempt: another script", x);
+        Sorter.always(x, 3, 'x', 0);
         C.due("attempt: lets go", 8, () -> x.attempt(3, m));
         C.due("attempt: is not gone", 100L, x::sum);
         x.deliver(m);
@@ -746,12 +715,12 @@ public final class PromisesTest {
     private static void doneAndDoneAt() {
         Filterbench x = new Filterbench();
         x.test('a', 0, 0);
-        plain(x);
+        Sorter.mail(x);
         x.deliver(0);
         C.due("done: keeping at the end counts none", 0, x::done);
         C.refuses("doneAt(0)", INDEX, () -> x.doneAt(0));
         for (int r = 0; r < 12; r++) {
-            always(x, 3, 'F', 1, 'F', 2, 'F', 3, 'F', 4, 'U', 4);
+            Sorter.always(x, 3, 'F', 1, 'F', 2, 'F', 3, 'F', 4, 'U', 4);
         }
         x.attempt(3, 0);
         C.due("done: 60", 60, x::done);
@@ -764,15 +733,15 @@ public final class PromisesTest {
     }
 
     private static void clashesAndFaults() {
-        Filterbench x = with('k', 0, 'm', 1, 'w', 1, 'c', 1, 'i', 0);
-        plain(x);
+        Filterbench x = Sorter.with('k', 0, 'm', 1, 'w', 1, 'c', 1, 'i', 0);
+        Sorter.mail(x);
         x.setQuota(1, 0);
         x.deliver(0);
         C.due("clashes: in each script", 9, x::clashes);
         C.due("faults: 'w' in each", 5, () -> x.faults('w'));
         C.due("faults: 'q' in each", 5, () -> x.faults('q'));
         C.due("faults: 'i' in the last", 1, () -> x.faults('i'));
-        dueDone("clashes and faults", x, 0, 4, 4, 4, 4);
+        C.dueDone("clashes and faults", x, 0, 4, 4, 4, 4);
         x.attempt(1, 0);
         C.due("clashes: of the last", 0, x::clashes);
         C.due("faults: of the last", 0, () -> x.faults('w') + x.faults('q') + x.faults('i'));
@@ -782,9 +751,9 @@ public final class PromisesTest {
     }
 
     private static void flags() {
-        Filterbench x = with('F', 0, 'F', 7, 'F', 7, 'U', 6);
-        always(x, 1, 'F', 3, 'U', 3);
-        plain(x);
+        Filterbench x = Sorter.with('F', 0, 'F', 7, 'F', 7, 'U', 6);
+        Sorter.always(x, 1, 'F', 3, 'U', 3);
+        Sorter.mail(x);
         x.deliver(0);
         C.due("flags", 129, x::flags);
         x.attempt(1, 0);
@@ -793,7 +762,7 @@ public final class PromisesTest {
     }
 
     private static void replies() {
-        Filterbench x = with('v', 1);
+        Filterbench x = Sorter.with('v', 1);
         x.mail(0, 1, 0, 0, 1);
         x.mail(9, 1, 0, 0, 1);
         x.deliver(0);
@@ -808,7 +777,7 @@ public final class PromisesTest {
     }
 
     private static void forwarded() {
-        Filterbench x = with('w', 0, 'w', 9);
+        Filterbench x = Sorter.with('w', 0, 'w', 9);
         x.mail(1, 4, 0, 0, 1);
         x.mail(9, 4, 0, 0, 1);
         x.deliver(0);
@@ -840,14 +809,14 @@ public final class PromisesTest {
         C.due("difference: flags", 5, () -> x.difference(2, 3));
         x.action(2, 0, 'U', 1);
         C.due("difference: flags that are left", 0, () -> x.difference(2, 3));
-        always(x, 3, 'c', 5, 'k', 0);
+        Sorter.always(x, 3, 'c', 5, 'k', 0);
         C.due("difference: of what is done alone, none", 0, () -> x.difference(2, 3));
         x.clear(2);
         x.clear(3);
-        always(x, 2, 'x', 0);
-        always(x, 3, 'r', 0);
+        Sorter.always(x, 2, 'x', 0);
+        Sorter.always(x, 3, 'r', 0);
         C.due("difference: let go or sent back", 5, () -> x.difference(2, 3));
-        dueDone("difference: the last delivery stays", x, 0);
+        C.dueDone("difference: the last delivery stays", x, 0);
         C.due("difference: changes nothing", 1, () -> x.boxOf(4));
         C.refuses("difference(4, 0)", INDEX, () -> x.difference(4, 0));
         C.refuses("difference(0, 4)", INDEX, () -> x.difference(0, 4));
@@ -866,7 +835,7 @@ public final class PromisesTest {
         x.rule(0, from1);
         C.due("isShadowed: nothing ends ahead", false, () -> x.isShadowed(0, 1));
         x.action(0, 0, 'i', 1);
-        always(x, 1, 'S', 0);
+        Sorter.always(x, 1, 'S', 0);
         C.due("isShadowed: 'i' ends nothing", false, () -> x.isShadowed(0, 1));
         x.action(0, 0, 's', 0);
         C.due("isShadowed: the same ends ahead", true, () -> x.isShadowed(0, 1));
@@ -1180,7 +1149,7 @@ public final class PromisesTest {
     }
 
     private static void sum() {
-        Filterbench x = with('x', 0);
+        Filterbench x = Sorter.with('x', 0);
         x.mail(1, 1, 0, 0, 999);
         x.mail(1, 1, 0, 0, 1);
         C.due("sum: not delivered", 1000L, x::sum);
@@ -1189,18 +1158,18 @@ public final class PromisesTest {
         x.deliver(0);
         C.due("sum: gone", 1L, x::sum);
         x.clear(0);
-        always(x, 0, 'c', 1);
+        Sorter.always(x, 0, 'c', 1);
         x.deliver(0);
         C.due("sum: not gone any more, copies aside", 1000L, x::sum);
     }
 
     private static void goneShare() {
-        Filterbench x = with('x', 0);
+        Filterbench x = Sorter.with('x', 0);
         C.refuses("goneShare: no mail", ARITHMETIC, x::goneShare);
-        plain(x);
-        plain(x);
-        plain(x);
-        plain(x);
+        Sorter.mail(x);
+        Sorter.mail(x);
+        Sorter.mail(x);
+        Sorter.mail(x);
         C.refuses("goneShare: none delivered", ARITHMETIC, x::goneShare);
         x.deliver(0);
         C.due("goneShare: all", 1.0f, x::goneShare);
@@ -1210,14 +1179,14 @@ public final class PromisesTest {
         C.due("goneShare: a third", 1.0f / 3.0f, x::goneShare);
         x.deliver(0);
         C.due("goneShare: none", 0.0f, x::goneShare);
-        always(x, 0, 'r', 0);
+        Sorter.always(x, 0, 'r', 0);
         x.deliver(0);
         x.deliver(1);
         C.due("goneShare: sent back", 2.0f / 3.0f, x::goneShare);
     }
 
     private static void meanSize() {
-        Filterbench x = with('c', 1, 'm', 1);
+        Filterbench x = Sorter.with('c', 1, 'm', 1);
         x.mail(1, 1, 0, 0, 10);
         x.mail(1, 1, 0, 0, 20);
         x.mail(1, 1, 0, 0, 23);
@@ -1229,7 +1198,7 @@ public final class PromisesTest {
         C.due("meanSize: of three", 53.0 / 3.0, () -> x.meanSize(1));
         C.refuses("meanSize: none in 0", ARITHMETIC, () -> x.meanSize(0));
         x.clear(0);
-        always(x, 0, 'x', 0);
+        Sorter.always(x, 0, 'x', 0);
         x.deliver(1);
         C.due("meanSize: without the gone one", 16.5, () -> x.meanSize(1));
         C.refuses("meanSize(8)", INDEX, () -> x.meanSize(8));
@@ -1237,19 +1206,19 @@ public final class PromisesTest {
     }
 
     private static void isTrue() {
-        Filterbench x = with('i', 1, 's', 0);
-        always(x, 0, 'k', 0);
-        always(x, 1, 'F', 1);
-        plain(x);
+        Filterbench x = Sorter.with('i', 1, 's', 0);
+        Sorter.always(x, 0, 'k', 0);
+        Sorter.always(x, 1, 'F', 1);
+        Sorter.mail(x);
         x.deliver(0);
         C.due("isTrue", true, x::isTrue);
-        dueDone("isTrue: the last delivery stays", x, 0, 1000, 1);
+        C.dueDone("isTrue: the last delivery stays", x, 0, 1000, 1);
         C.due("isTrue: flags stay", 2, x::flags);
         C.due("isTrue: though a rule is shadowed", true, () -> x.isShadowed(0, 1));
         int flag = x.test('k', 1, 0);
         x.rule(2, flag);
         x.action(2, 0, 's', 0);
-        always(x, 2, 'F', 1);
+        Sorter.always(x, 2, 'F', 1);
         x.rule(2, flag);
         C.due("isTrue: a flag that came between", true, x::isTrue);
         C.due("isTrue: it is not shadowed", false, () -> x.isShadowed(2, 2));

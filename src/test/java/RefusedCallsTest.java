@@ -88,7 +88,7 @@ public final class RefusedCallsTest {
         Sorter.when(x, 0, 1, 'F', 2, 'v', 2, 'w', 7, 'w', 7);
         Sorter.when(x, 0, 2, 'c', 1, 'i', 1);
         Sorter.when(x, 0, 5, 'm', 2, 'c', 4);
-        Sorter.when(x, 0, 6, 'x', 0);
+        Sorter.when(x, 0, 6, 'x', 0, 'F', 2);
         Sorter.when(x, 1, 0, 'i', 1, 'm', 3);
         Sorter.when(x, 2, 1, 's', 0);
         Sorter.when(x, 2, 1, 'F', 1);
@@ -134,7 +134,7 @@ public final class RefusedCallsTest {
 
     private static Filterbench fullOfActions() {
         Filterbench x = busy();
-        Sorter.always(x, 3, 'F', 1, 'U', 1, 'F', 3, 'm', 4, 'c', 5);
+        Sorter.always(x, 3, 'c', 5, 'm', 4, 'U', 1, 'F', 3, 'F', 6);
         return x;
     }
 
@@ -286,7 +286,7 @@ public final class RefusedCallsTest {
             int number = i;
             C.due("mail: number " + i, number, () -> Sorter.mail(x));
         }
-        refuses("mail: the 41st", STATE, RefusedCallsTest::fullOfMails, y -> Sorter.mail(y));
+        refuses("mail: the 41st", STATE, RefusedCallsTest::fullOfMails, y -> y.mail(3, 2, 4, 8, 7));
         refuses("mail: the 41st, a size of 0", ARGUMENT, RefusedCallsTest::fullOfMails, y -> Sorter.mail(y, 0));
         refuses("mail: the 41st, person 10", ARGUMENT, RefusedCallsTest::fullOfMails, y -> y.mail(10, 1, 0, 0, 1));
     }
@@ -438,7 +438,7 @@ public final class RefusedCallsTest {
         }
         for (char kind : "kxrsS".toCharArray()) {
             for (int number : new int[] {Integer.MIN_VALUE, -1, 1000, Integer.MAX_VALUE}) {
-                takes("action: " + kind + ", no meaning", 2, RefusedCallsTest::busy,
+                takes("action: " + kind + ", no meaning", 3, RefusedCallsTest::busy,
                     x -> x.action(0, 3, kind, number));
             }
         }
@@ -449,7 +449,7 @@ public final class RefusedCallsTest {
         for (char kind = 0; kind < 300; kind++) {
             char asked = kind;
             if (kinds.indexOf(kind) >= 0) {
-                takes("action: kind " + kind, 2, RefusedCallsTest::busy, x -> x.action(0, 3, asked, 1));
+                takes("action: kind " + kind, 3, RefusedCallsTest::busy, x -> x.action(0, 3, asked, 1));
             } else {
                 refuses("action: kind number " + (int) kind, ARGUMENT, RefusedCallsTest::busy,
                     x -> x.action(0, 3, asked, 1));
@@ -520,7 +520,7 @@ public final class RefusedCallsTest {
         takes("doneAt: how many", 9, RefusedCallsTest::busy, Filterbench::done);
         edges("doneAt", INDEX, 0, 8, RefusedCallsTest::busy, Filterbench::doneAt);
         refuses("doneAt: nothing was done", INDEX, RefusedCallsTest::empty, x -> x.doneAt(0));
-        edges("doneAt: one action", INDEX, 0, 0, () -> {
+        edges("doneAt: two actions", INDEX, 0, 1, () -> {
             Filterbench x = busy();
             x.attempt(0, GONE);
             return x;

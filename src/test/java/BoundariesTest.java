@@ -313,7 +313,7 @@ public final class BoundariesTest {
         Sorter.when(x, 0, last, 'F', 6);
         Sorter.when(x, 1, last, 'F', 2, 'U', 0);
         x.deliver(mail);
-        C.due("flags now: set ahead, taken away within, taken away by its own rule", 1 << 2 | 1 << 4 | 1 << 5, x::flags);
+        C.due("flags now: set ahead, taken away within and by its own rule", 1 << 2 | 1 << 4 | 1 << 5, x::flags);
         C.dueDone("flags now", x, 10, 11, 12, 1000, 1001, 30, 31, 32);
         x.deliver(mail);
         C.dueDone("flags now: none at first", x, 10, 11, 12, 1000, 1001, 30, 31, 32);

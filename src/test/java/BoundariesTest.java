@@ -990,6 +990,19 @@ public final class BoundariesTest {
             C.due("a copy ahead of the 'm', of " + i, fits ? 1 : 0, () -> ahead.deliver(0));
             C.due("a copy ahead of the 'm', of " + i + ": in the box", fits ? 200 : 100, () -> ahead.inBox(1));
         }
+        for (int i = 499; i <= 500; i++) {
+            int quota = i;
+            Filterbench beside = Sorter.with('m', 1);
+            Sorter.delivered(beside, 300);
+            beside.action(0, 0, 'c', 1);
+            beside.setQuota(1, quota);
+            int mail = Sorter.mail(beside);
+            beside.attempt(0, mail);
+            C.due("a copy behind the 'm', beside another mail, try of " + i, 500 - quota, () -> beside.faults('q'));
+            beside.deliver(mail);
+            int due = quota < 500 ? 400 : 500;
+            C.due("a copy behind the 'm', beside another mail, of " + i, due, () -> beside.inBox(1));
+        }
         Filterbench other = Sorter.with('m', 2, 'c', 1);
         other.setQuota(1, 100);
         Sorter.mail(other);

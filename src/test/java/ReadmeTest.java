@@ -9,7 +9,7 @@ import java.util.regex.Matcher;
 import java.util.regex.Pattern;
 import java.util.stream.Stream;
 
-/** Does what README.md says: its program compiles and prints what stands behind its calls, and what it names is there. */
+/** Does what README.md says: its program prints what stands behind the calls, and what the page names is there. */
 public final class ReadmeTest {
     private static final String TESTS = "src/test/java/";
     private static final Check C = new Check();
@@ -96,7 +96,8 @@ public final class ReadmeTest {
             }
         }
         try (Stream<Path> files = Files.list(Path.of(TESTS))) {
-            List<String> all = files.map(f -> f.getFileName().toString()).filter(f -> f.endsWith("Test.java")).sorted().toList();
+            List<String> all = files.map(f -> f.getFileName().toString())
+                .filter(f -> f.endsWith("Test.java")).sorted().toList();
             C.due("the tests that the page names", all, () -> List.copyOf(tests));
         }
     }

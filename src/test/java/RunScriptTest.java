@@ -45,13 +45,13 @@ public final class RunScriptTest {
     }
 
     private static void due(Workshop project, String what, boolean isWell, String... lines) throws Exception {
-        Workshop.Outcome outcome = project.run("main/.ci/run");
+        Workshop.Outcome outcome = project.run("sh", "main/.ci/run");
         C.due(what + ": exit code 0", isWell, () -> outcome.exit() == 0);
         C.due(what, List.of(lines), outcome::lines);
     }
 
     private static void dueFailed(Workshop project, String what) throws Exception {
-        Workshop.Outcome outcome = project.run("main/.ci/run");
+        Workshop.Outcome outcome = project.run("sh", "main/.ci/run");
         C.due(what + ": exit code 0", false, () -> outcome.exit() == 0);
     }
 }
